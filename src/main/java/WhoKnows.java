@@ -1196,7 +1196,9 @@ public final class WhoKnows {
             }
             for (int k = 0; k < KNOWERS; k++) {
                 for (int w = 0; w < worlds; w++) {
-                    holdPairs(from, e, k, w);
+                    if (canBe[w] != 0) {
+                        holdPairs(from, e, k, w);
+                    }
                 }
             }
             behind.realOne = lets(from.realOne, e.realCase) ? pair(from.realOne, e.realCase) : 0;

@@ -86,6 +86,15 @@ public final class SayingsTest {
         faulty("after 4;", 6, 3);
         faulty("x ;", 0, 2);
         faulty("t", 0, 2);
+        faulty("z", 0, 2);
+        faulty("a", 0, 2);
+        faulty("0", 0, 2);
+        faulty("9", 0, 2);
+        for (char c : new char[] {'`', '{', '/', ':', '!', 'A', 'Z', 0, 31, 127, 128, 160, 255}) {
+            faulty("" + c, 0, 1);
+            faulty("p" + c, 1, 1);
+            faulty("not " + c + "p", 4, 1);
+        }
         faulty("pq", 0, 2);
         faulty("3", 0, 2);
         faulty("p q", 2, 2);
