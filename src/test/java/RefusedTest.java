@@ -1,8 +1,8 @@
-import java.util.Arrays;
 import java.util.Random;
 
-/** What is refused changes nothing, and no call throws, whatever it is given. */
+/** Wild numbers in any place: no call throws, and what is refused changes nothing. */
 public final class RefusedTest {
+    private static final int RUNS = 9000;
     private static final int[] ODD = {
         Integer.MIN_VALUE, -100, -5, -4, -3, -2, -1, 0, 1, 2, 3, 4, 5, 7, 8, 10, 13, 14, 15, 16, 23, 24, 25, 31, 32,
         48, 49, 160, 161, 4095, 4096, 65535, 65536, 1 << 24, Integer.MAX_VALUE};
@@ -16,58 +16,6 @@ public final class RefusedTest {
 
     private int odd() {
         return random.nextInt(3) == 0 ? random.nextInt(4) : ODD[random.nextInt(ODD.length)];
-    }
-
-    private WhoKnows full(int kind) {
-        WhoKnows x = new WhoKnows();
-        if (kind == 0) {
-            return x;
-        }
-        int worlds = kind == 1 ? 4 : 24;
-        x.sheet(1, 1, worlds);
-        for (int i = 0; i < worlds; i++) {
-            x.write(1, i, i % 16);
-        }
-        x.read(1, 1, 0, worlds);
-        x.blind(0x8421);
-        x.real(1);
-        String[] texts = {"p", "know a p", "after 0 q", "common ab or p q", "after 1 after 2 r"};
-        for (int k = 0; k < texts.length; k++) {
-            Check.tell(x, k, texts[k]);
-        }
-        x.word(0, 0, 0, 0);
-        x.word(1, kind, 1, 5);
-        x.event(2, 4);
-        x.keep();
-        x.people(3);
-        x.call(0, 2);
-        x.sheet(0, 0, 6);
-        x.write(0, 3, 77);
-        Check.feed(x, "not ");
-        return x;
-    }
-
-    private static int[] look(WhoKnows x) {
-        int[] seen = new int[256];
-        int n = 0;
-        for (int what = 0; what < 9; what++) {
-            seen[n++] = x.count(what);
-        }
-        for (int w = 0; w < x.count(0); w++) {
-            for (int what = 0; what < 5; what++) {
-                seen[n++] = x.of(w, what);
-            }
-        }
-        for (int k = 0; k < 8; k++) {
-            seen[n++] = x.saying(k, 3);
-            seen[n++] = x.truth(k);
-        }
-        for (int i = 0; i < 4; i++) {
-            seen[n++] = x.secrets(i);
-            seen[n++] = x.same(i);
-        }
-        seen[n++] = x.fault();
-        return Arrays.copyOf(seen, n);
     }
 
     private int wild(WhoKnows x) {
@@ -115,25 +63,27 @@ public final class RefusedTest {
         }
     }
 
-    private void run(int kind) {
-        WhoKnows x = full(kind);
-        WhoKnows y = full(kind);
-        int answer = wild(y);
-        // A text with a fault is told as the document says: the tape is empty then.
-        if (answer < 0 && !(call.startsWith("call 8 ") && answer <= -10)) {
-            Check.due(call + " of kind " + kind + " was refused and changed nothing",
-                Arrays.equals(look(x), look(y)) ? 1 : 0, 1);
+    /** A text with a fault is told as the document says: the tape is empty then. */
+    private boolean isRefused(int answer) {
+        return answer < 0 && !(call.startsWith("call 8 ") && answer <= -10);
+    }
+
+    private static void run(long seed) {
+        States state = States.values()[(int) (seed % States.values().length)];
+        RefusedTest t = new RefusedTest(seed);
+        int answer = t.wild(state.get());
+        if (t.isRefused(answer)) {
+            Refusal.nothingChanged(t.call + " in state " + state, state, x -> new RefusedTest(seed).wild(x));
         }
     }
 
     public static void main(String[] args) {
-        for (int seed = 0; seed < 60000; seed++) {
-            RefusedTest t = new RefusedTest(seed);
+        for (long seed = 0; seed < RUNS; seed++) {
             try {
-                t.run(seed % 3);
+                run(seed);
             } catch (RuntimeException e) {
                 e.printStackTrace(System.out);
-                Check.due(t.call + " threw", 1, 0);
+                Check.due("run " + seed + " threw", 1, 0);
             }
         }
         Check.end();
