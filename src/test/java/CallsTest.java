@@ -74,10 +74,76 @@ public final class CallsTest {
         fewest(x, 1, 2);
     }
 
+    private static int[] called(int[] known, int i, int j) {
+        int[] then = known.clone();
+        then[i] |= known[j];
+        then[j] |= known[i];
+        return then;
+    }
+
+    private static boolean allKnow(int[] known) {
+        for (int secrets : known) {
+            if (secrets != (1 << known.length) - 1) {
+                return false;
+            }
+        }
+        return true;
+    }
+
+    /** The least row of so many calls behind which all know all, by figures behind a 1; or NONE. */
+    private static int row(int[] known, int calls, int sofar) {
+        if (calls == 0) {
+            return allKnow(known) ? sofar : NONE;
+        }
+        for (int i = 0; i < known.length; i++) {
+            for (int j = i + 1; j < known.length; j++) {
+                int found = row(called(known, i, j), calls - 1, sofar * 100 + 10 * i + j);
+                if (found != NONE) {
+                    return found;
+                }
+            }
+        }
+        return NONE;
+    }
+
+    private static void eachRow(int n, int[] known, int[] made, int calls) {
+        WhoKnows x = new WhoKnows();
+        x.people(n);
+        for (int c = 0; c < calls; c++) {
+            x.call(made[c] / 10, made[c] % 10);
+        }
+        int fewest = 0;
+        while (row(known, fewest, 1) == NONE) {
+            fewest++;
+        }
+        Check.due("34: fewest of " + n + " behind " + calls, x.fewest(0), fewest);
+        String figures = String.valueOf(row(known, fewest, 1));
+        int first = fewest == 0 ? NONE : Integer.parseInt(figures.substring(1, 3));
+        Check.due("34: first of " + n + " behind " + calls, x.fewest(1), first);
+        for (int i = 0; i < n && calls < made.length; i++) {
+            for (int j = i + 1; j < n; j++) {
+                made[calls] = 10 * i + j;
+                eachRow(n, called(known, i, j), made, calls + 1);
+            }
+        }
+    }
+
+    /** Behind each row of up to four calls. */
+    private static void promise34Everywhere() {
+        for (int n = 2; n <= 4; n++) {
+            int[] known = new int[n];
+            for (int i = 0; i < n; i++) {
+                known[i] = 1 << i;
+            }
+            eachRow(n, known, new int[4], 0);
+        }
+    }
+
     public static void main(String[] args) {
         promise31();
         promise32();
         promise34();
+        promise34Everywhere();
         Check.end();
     }
 }

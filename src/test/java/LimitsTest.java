@@ -1,3 +1,5 @@
+import java.util.function.ToIntFunction;
+
 /** How many there can be of each, the last one and one too many; nothing at all; wrap-arounds. */
 public final class LimitsTest {
     private static final int BAD = WhoKnows.BAD, STATE = WhoKnows.STATE, FULL = WhoKnows.FULL, NONE = WhoKnows.NONE;
@@ -110,6 +112,19 @@ public final class LimitsTest {
         y.world(1);
         Check.tell(y, 0, "common a not p");
         Check.due("13: common in all", y.truth(0), ALL_24);
+    }
+
+    /** A way leads through the first world as through any other. */
+    private static void throughEachWorld() {
+        for (int through = 0; through < 3; through++) {
+            WhoKnows x = alike(3, 0);
+            int from = (through + 1) % 3;
+            int to = (through + 2) % 3;
+            x.sees(0, from, through, true, false);
+            x.sees(1, through, to, true, false);
+            Check.due("7: through " + through, x.reach(3, from), 1 << through | 1 << to);
+            Check.due("7: not by one alone", x.reach(1, from), 1 << through);
+        }
     }
 
     /** "common: it is in all WORLDS to which one or more steps lead": 23 steps off too. */
@@ -329,6 +344,35 @@ public final class LimitsTest {
         Check.due("24: what is possible", x.of(0, 2), 1);
     }
 
+    /** Asked first of all, on a new object. */
+    private static void classOfAlone() {
+        WhoKnows x = Check.worlds(2, 1, 2, 1);
+        Check.due("22: as the first question", x.classOf(3), 1);
+        WhoKnows y = Check.worlds(2, 1, 2, 1);
+        Check.due("21: as the first question", y.classes(), 2);
+        WhoKnows z = Check.worlds(2, 1, 2, 1);
+        Check.due("23: as the first question", z.depth(1, 3), NONE);
+    }
+
+    /** "in order of the least of each": facts, what is possible and the real one go with it. */
+    private static void meltedOrder() {
+        WhoKnows x = Check.worlds(3, 3, 5, 3, 6, 5);
+        for (int w = 0; w < 6; w++) {
+            x.sees(0, w, 0, true, false);
+            x.sees(1, w, 4, true, false);
+            x.sees(2, w, w, true, false);
+        }
+        x.real(5);
+        Check.due("24: three are left", x.melt(), 3);
+        int[][] due = {{3, 1, 4, 1, 0}, {5, 1, 4, 2, 0}, {6, 1, 4, 4, 0}};
+        for (int w = 0; w < 3; w++) {
+            for (int what = 0; what < 5; what++) {
+                Check.due("24: of(" + w + ", " + what + ")", x.of(w, what), due[w][what]);
+            }
+        }
+        Check.due("24: real", x.count(1), 1);
+    }
+
     /** A way of 45 steps on which two rings look alike, of 23 and of 24 worlds; then they differ. */
     private static void lateSame() {
         int[] heap = new int[45];
@@ -393,6 +437,19 @@ public final class LimitsTest {
         }
         Check.due("28: turn 24", x.turn(3, own), 3);
         Check.due("28: one is left", x.count(0), 1);
+    }
+
+    /** Who knows whether looks at what it holds POSSIBLE, not at what is POSSIBLE there. */
+    private static void oneStepOnly() {
+        for (int last = 0; last < 2; last++) {
+            WhoKnows x = Check.worlds(last, 1 - last, last);
+            x.sees(0, 0, 1, true, false);
+            x.sees(0, 1, 2, true, false);
+            Check.tell(x, 0, "p");
+            Check.due("28: it knows", x.turn(1, 0), 1);
+            Check.due("28: all stay", x.count(0), 3);
+            Check.due("29: it knows", x.turns(1, 0, 2), 1);
+        }
     }
 
     /** Each of GROUP by its own figure to the base 8, the others' figures are free. */
@@ -559,6 +616,33 @@ public final class LimitsTest {
         Check.due("38: stays", x.count(1), 18);
     }
 
+    private static void undone(String what, ToIntFunction<WhoKnows> act) {
+        Check.due("38: is refused: " + what, act.applyAsInt(States.SOME.get()) < 0 ? 1 : 0, 0);
+        Refusal.due("38: undone: " + what, States.SOME, x -> {
+            act.applyAsInt(x);
+            return x.undo();
+        }, 6);
+    }
+
+    /** "those that change WORLDS, what is POSSIBLE, which is REAL": each is undone, to the last bit. */
+    private static void eachActUndone() {
+        undone("world", x -> x.world(9));
+        undone("sees", x -> x.sees(0, 0, 2, true, true));
+        undone("sees not", x -> x.sees(0, 0, 0, false, true));
+        undone("sees what it sees", x -> x.sees(0, 0, 0, true, true));
+        undone("blind", x -> x.blind(0x8421));
+        undone("real", x -> x.real(2));
+        undone("real, the same", x -> x.real(1));
+        undone("lay 0", x -> x.lay(0));
+        undone("lay 2", x -> x.lay(2));
+        undone("melt", x -> x.melt());
+        undone("stand", x -> x.stand(0));
+        undone("stand, the same", x -> x.stand(1));
+        undone("turn", x -> x.turn(15, 0));
+        undone("read", x -> x.read(0, 0, 5, 1));
+        undone("read of none", x -> x.read(2, 2, 0, 0));
+    }
+
     /** "(not refused ones)": a refused call is no act and takes none of the eight away. */
     private static void refusedIsNoAct() {
         WhoKnows x = Check.worlds(0, 0, 0, 0, 0, 0, 0, 0, 0, 0, 0, 0);
@@ -591,6 +675,7 @@ public final class LimitsTest {
         blindBits();
         blindOwnAlone();
         longWay();
+        throughEachWorld();
         commonFarOff();
         nothingPossible();
         noWorlds();
@@ -602,8 +687,11 @@ public final class LimitsTest {
         soAndNot();
         fourModels();
         lateDepth();
+        classOfAlone();
+        meltedOrder();
         lateSame();
         mostTurns();
+        oneStepOnly();
         figures();
         rows();
         hiddenAllTheWay();
@@ -612,6 +700,7 @@ public final class LimitsTest {
         lowestBits();
         cellFaults();
         eightActs();
+        eachActUndone();
         refusedIsNoAct();
         Check.end();
     }

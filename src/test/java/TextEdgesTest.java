@@ -342,6 +342,11 @@ public final class TextEdgesTest {
         deep("or know b know c p know a p", 2);
         deep("or know b know c and know d p q know a p", 3);
         deep("know a ".repeat(15) + "p", 15);
+        deep("and know b p and know a q r", 1);
+        WhoKnows x = new WhoKnows();
+        Check.tell(x, 0, "know a know b p");
+        Check.tell(x, 0, "p");
+        Check.due("12: depth of a plain one behind a deep one", x.saying(0, 2), 0);
     }
 
     public static void main(String[] args) {
