@@ -167,6 +167,27 @@ public final class LimitsTest {
         Check.due("6: none holds anything", x.of(1, 6), 15);
     }
 
+    /** "KNOWERS 0 to 3 (a to d)", "FACTS (bits: p 1, q 2, r 4, s 8)": each by its own letter. */
+    private static void letters() {
+        String[] words = {"know ", "whether ", "every ", "common ", "together "};
+        for (int k = 0; k < 4; k++) {
+            for (int f = 0; f < 4; f++) {
+                WhoKnows x = Check.worlds(15 & ~(1 << f), 15);
+                x.sees(k, 0, 0, true, false);
+                x.sees(k, 0, 1, true, false);
+                for (int letter = 0; letter < 16; letter++) {
+                    char fact = "pqrs".charAt(letter / 4);
+                    char who = "abcd".charAt(letter % 4);
+                    boolean unsure = letter / 4 == f && letter % 4 == k;
+                    for (int i = 0; i < words.length; i++) {
+                        Check.tell(x, i, words[i] + who + " " + fact);
+                        Check.due("13: " + words[i] + who + " " + fact, x.truth(i), unsure ? 2 : 3);
+                    }
+                }
+            }
+        }
+    }
+
     /** No worlds: what is asked of all of them has an answer all the same. */
     private static void noWorlds() {
         WhoKnows x = new WhoKnows();
@@ -678,6 +699,7 @@ public final class LimitsTest {
         throughEachWorld();
         commonFarOff();
         nothingPossible();
+        letters();
         noWorlds();
         laid24();
         planned24();
